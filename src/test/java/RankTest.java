@@ -1,0 +1,158 @@
+/** Promises 11, 12 and 13: weight, size and at. */
+public final class RankTest {
+    public static void main(String[] args) {
+        lessWeightComesFirst();
+        theLesserRuleComesFirst();
+        weightComesBeforeRules();
+        theFirstDifferenceDecides();
+        spansOfTheParts();
+        eightAreKept();
+        deepTrees();
+        heavyTrees();
+        wrongArguments();
+        answersFollowTheState();
+        Check.end();
+    }
+
+    private static void ranks(RankedTrees x, String... want) {
+        for (int k = 0; k < want.length; k++) {
+            Check.text("tree " + k, x.weight(k) + ": " + Check.tree(x, k), want[k]);
+        }
+        int behind = want.length;
+        if (behind < 8) {
+            Check.same("trees", x.trees(), behind);
+            Check.refused("weight(" + behind + ")", Check.ELEMENT, () -> x.weight(behind));
+        }
+    }
+
+    private static void lessWeightComesFirst() {
+        ranks(Check.loaded("A=B:5;A=C:3;A=a:7;B=a:1;C=a:2;A=D:0;D=a:9;", "a"),
+                "5: 1(0,1) 4(0,1)", "6: 0(0,1) 3(0,1)", "7: 2(0,1)", "9: 5(0,1) 6(0,1)");
+    }
+
+    private static void theLesserRuleComesFirst() {
+        ranks(Check.loaded("A=AA;A=a;A=B;B=a:0;", "aa"),
+                "3: 0(0,2) 1(0,1) 1(1,2)",
+                "3: 0(0,2) 1(0,1) 2(1,2) 3(1,2)",
+                "3: 0(0,2) 2(0,1) 3(0,1) 1(1,2)",
+                "3: 0(0,2) 2(0,1) 3(0,1) 2(1,2) 3(1,2)");
+    }
+
+    private static void weightComesBeforeRules() {
+        ranks(Check.loaded("A=BC:0;B=b:4;B=bb:1;C=bb:0;C=b:2;", "bbb"),
+                "3: 0(0,3) 2(0,2) 4(2,3)", "4: 0(0,3) 1(0,1) 3(1,3)");
+    }
+
+    // Later rules do not count where an earlier one differs, nor does a part's own rank.
+    private static void theFirstDifferenceDecides() {
+        ranks(Check.loaded("A=BB:0;B=a:2;B=C:1;C=a:0;C=D:0;D=a:1;", "aa"),
+                "2: 0(0,2) 2(0,1) 3(0,1) 2(1,2) 3(1,2)",
+                "3: 0(0,2) 1(0,1) 2(1,2) 3(1,2)",
+                "3: 0(0,2) 2(0,1) 3(0,1) 1(1,2)",
+                "3: 0(0,2) 2(0,1) 3(0,1) 2(1,2) 4(1,2) 5(1,2)",
+                "3: 0(0,2) 2(0,1) 4(0,1) 5(0,1) 2(1,2) 3(1,2)",
+                "4: 0(0,2) 1(0,1) 1(1,2)",
+                "4: 0(0,2) 1(0,1) 2(1,2) 4(1,2) 5(1,2)",
+                "4: 0(0,2) 2(0,1) 4(0,1) 5(0,1) 1(1,2)");
+    }
+
+    private static void spansOfTheParts() {
+        ranks(Check.loaded("A=xBy:1;B=BbC:2;B=b:3;C=cC:4;C=c:5;", "xbbccy"),
+                "15: 0(0,6) 1(1,5) 2(1,2) 3(3,5) 4(4,5)");
+        ranks(Check.loaded("A=BCD;B=b;B=bb;C=b;C=bb;D=b;", "bbbb"),
+                "4: 0(0,4) 1(0,1) 4(1,3) 5(3,4)", "4: 0(0,4) 2(0,2) 3(2,3) 5(3,4)");
+        ranks(Check.loaded("A=aBc;B=C;C=D;D=E;E=bb:0;", "abbc"),
+                "4: 0(0,4) 1(1,3) 2(1,3) 3(1,3) 4(1,3)");
+    }
+
+    private static void eightAreKept() {
+        RankedTrees x = Check.loaded("A=AA:1;A=a:10;A=B:0;B=a:10;", "aaaa");
+        Check.same("trees", x.trees(), 80);
+        for (int k = 0; k < 8; k++) {
+            Check.same("weight of " + k, x.weight(k), 43);
+            Check.same("first rule of " + k, x.at(k, 0, 0), 0);
+        }
+        Check.text("tree 0", Check.tree(x, 0),
+                "0(0,4) 0(0,3) 0(0,2) 1(0,1) 1(1,2) 1(2,3) 1(3,4)");
+        Check.text("tree 7", Check.tree(x, 7),
+                "0(0,4) 0(0,3) 0(0,2) 1(0,1) 2(1,2) 3(1,2) 2(2,3) 3(2,3) 2(3,4) 3(3,4)");
+        Check.refused("weight(8)", Check.ARGUMENT, () -> x.weight(8));
+        RankedTrees y = Check.loaded("A=a:9;A=B:7;A=C:6;A=D:5;A=E:4;B=a;B=C:0;B=D:0;C=a:0;C=D:0;"
+                + "D=a:2;D=E:1;E=a:0;", "a");
+        Check.same("trees", y.trees(), 13);
+        int[] want = {4, 6, 6, 7, 7, 7, 8, 8};
+        for (int k = 0; k < 8; k++) {
+            Check.same("weight of " + k, y.weight(k), want[k]);
+        }
+    }
+
+    private static void deepTrees() {
+        RankedTrees x = Check.loaded("A=B;B=C;C=D;D=E;E=AA;E=a;", "aaaaaa");
+        Check.same("trees", x.trees(), 42);
+        Check.same("size", x.size(0), 55);
+        Check.same("weight", x.weight(7), 55);
+        Check.same("last rule", x.at(0, 54, 0), 5);
+        Check.same("last from", x.at(0, 54, 1), 5);
+        Check.same("last to", x.at(0, 54, 2), 6);
+        Check.same("29th rule of the left tree", x.at(0, 29, 0), 5);
+        Check.same("29th span of the left tree", x.at(0, 29, 2), 1);
+        Check.refused("behind the last", Check.INDEX, () -> x.at(0, 55, 0));
+    }
+
+    private static void heavyTrees() {
+        RankedTrees x = Check.loaded(
+                "A=B:999;B=C:999;C=D:999;D=E:999;E=AA:999;E=a:999;", "aaaaaa");
+        Check.same("weight", x.weight(0), 55 * 999);
+        Check.same("weight of no weights", Check.loaded("A=B:0;B=b:00;", "b").weight(0), 0);
+    }
+
+    private static void wrongArguments() {
+        RankedTrees x = Check.loaded("A=a;A=B;B=a;", "a");
+        int[] wrong = {-1, 8, 9, Integer.MAX_VALUE, Integer.MIN_VALUE};
+        for (int k : wrong) {
+            Check.refused("weight(" + k + ")", Check.ARGUMENT, () -> x.weight(k));
+            Check.refused("size(" + k + ")", Check.ARGUMENT, () -> x.size(k));
+            Check.refused("at(" + k + ", 0, 0)", Check.ARGUMENT, () -> x.at(k, 0, 0));
+            Check.refused("at(" + k + ", 99, 0)", Check.ARGUMENT, () -> x.at(k, 99, 0));
+            Check.refused("at(0, " + k + ", 0)", Check.INDEX, () -> x.at(0, k, 0));
+            if (k != 0) {
+                Check.refused("at(0, 0, " + k + ")", Check.ARGUMENT, () -> x.at(0, 0, k));
+                Check.refused("at(7, 0, " + k + ")", Check.ARGUMENT, () -> x.at(7, 0, k));
+                Check.refused("at(0, 9, " + k + ")", Check.ARGUMENT, () -> x.at(0, 9, k));
+            }
+        }
+        Check.refused("at(0, 0, 3)", Check.ARGUMENT, () -> x.at(0, 0, 3));
+        Check.refused("at(0, 1, 0)", Check.INDEX, () -> x.at(0, 1, 0));
+        Check.same("at(1, 1, 0)", x.at(1, 1, 0), 2);
+        Check.refused("at(1, 2, 0)", Check.INDEX, () -> x.at(1, 2, 0));
+        noSuchTree(x, 2);
+        noSuchTree(x, 7);
+        x.token('a');
+        noSuchTree(x, 0);
+        x.drop();
+        noSuchTree(x, 0);
+        noSuchTree(x, 7);
+        Check.refused("weight of an empty row, k 8", Check.ARGUMENT, () -> x.weight(8));
+    }
+
+    private static void noSuchTree(RankedTrees x, int k) {
+        Check.refused("weight(" + k + ")", Check.ELEMENT, () -> x.weight(k));
+        Check.refused("size(" + k + ")", Check.ELEMENT, () -> x.size(k));
+        Check.refused("at(" + k + ", 0, 0)", Check.ELEMENT, () -> x.at(k, 0, 0));
+        Check.refused("at(" + k + ", -1, 2)", Check.ELEMENT, () -> x.at(k, -1, 2));
+        Check.refused("at(" + k + ", 0, 3)", Check.ARGUMENT, () -> x.at(k, 0, 3));
+    }
+
+    private static void answersFollowTheState() {
+        RankedTrees x = Check.loaded("A=AA;A=a;A=b:5;", "a");
+        ranks(x, "1: 1(0,1)");
+        x.token('b');
+        ranks(x, "7: 0(0,2) 1(0,1) 2(1,2)");
+        Check.row(x, "ba");
+        ranks(x, "7: 0(0,2) 2(0,1) 1(1,2)");
+        Check.same("load", Check.load(x, "A=b:3;B=BB:2;A=Aa:4;"), 0);
+        ranks(x, "7: 2(0,2) 0(0,1)");
+        Check.same("load", Check.load(x, "C=Ca;"), 0);
+        ranks(x);
+    }
+}

@@ -1,0 +1,89 @@
+/** Promises 5 and 6: rules and rule. */
+public final class RuleTest {
+    public static void main(String[] args) {
+        whatARuleHas();
+        shorterBodiesHaveZeros();
+        rowsAreUsedAgain();
+        wrongArguments();
+        useful();
+        Check.end();
+    }
+
+    private static void whatARuleHas() {
+        RankedTrees x = Check.loaded("A=aBz:12;B=E;E=eA:007;C=Dd:000;D=b:999;", "");
+        Check.same("rules", x.rules(), 5);
+        int[][] want = {{'A', 'a', 'B', 'z', 12}, {'B', 'E', 0, 0, 1}, {'E', 'e', 'A', 0, 7},
+            {'C', 'D', 'd', 0, 0}, {'D', 'b', 0, 0, 999}};
+        for (int k = 0; k < want.length; k++) {
+            for (int what = 0; what < 5; what++) {
+                Check.same("rule(" + k + ", " + what + ")", x.rule(k, what), want[k][what]);
+            }
+        }
+    }
+
+    private static void shorterBodiesHaveZeros() {
+        RankedTrees x = Check.loaded("A=a;", "");
+        Check.same("second symbol", x.rule(0, 2), 0);
+        Check.same("third symbol", x.rule(0, 3), 0);
+    }
+
+    private static void rowsAreUsedAgain() {
+        RankedTrees x = Check.loaded("A=abc:5;A=Bcd:6;B=b;", "");
+        Check.same("load", Check.load(x, "C=xyz:8;C=uvw:9;C=Dst;D=d;"), 0);
+        Check.same("load", Check.load(x, "E=e;D=D;"), 0);
+        Check.same("rules", x.rules(), 2);
+        int[][] want = {{'E', 'e', 0, 0, 1, 1}, {'D', 'D', 0, 0, 1, 0}};
+        for (int k = 0; k < 2; k++) {
+            for (int what = 0; what < 6; what++) {
+                Check.same("rule(" + k + ", " + what + ")", x.rule(k, what), want[k][what]);
+            }
+        }
+    }
+
+    private static void wrongArguments() {
+        RankedTrees x = Check.loaded("A=a;A=b;", "");
+        int[] numbers = {2, 3, 14, 15, -1, Integer.MAX_VALUE, Integer.MIN_VALUE};
+        for (int k : numbers) {
+            Check.refused("rule(" + k + ", 0)", Check.INDEX, () -> x.rule(k, 0));
+            Check.refused("rule(" + k + ", 6)", Check.INDEX, () -> x.rule(k, 6));
+        }
+        int[] whats = {6, 7, -1, Integer.MAX_VALUE, Integer.MIN_VALUE};
+        for (int what : whats) {
+            Check.refused("rule(1, " + what + ")", Check.ARGUMENT, () -> x.rule(1, what));
+        }
+    }
+
+    /** The digits say which rules are useful. */
+    private static void marks(String text, String want) {
+        RankedTrees x = Check.loaded(text, "");
+        StringBuilder got = new StringBuilder();
+        for (int k = 0; k < x.rules(); k++) {
+            got.append(x.rule(k, 5));
+        }
+        Check.text("useful of " + text, got.toString(), want);
+    }
+
+    private static void useful() {
+        marks("A=a;", "1");
+        marks("A=A;", "0");
+        marks("A=AA;", "0");
+        marks("A=B;B=b;", "11");
+        marks("B=b;A=B;A=a;", "100");
+        marks("A=BC;B=b;A=a;", "001");
+        marks("A=BC;B=b;C=c;A=a;", "1111");
+        marks("A=BCD;B=b;C=c;D=D;A=x;", "00001");
+        marks("A=E;E=D;D=C;C=B;B=b;", "11111");
+        marks("A=B;B=C;C=D;D=E;E=e;", "11111");
+        marks("E=e;D=E;C=D;B=C;A=B;", "10000");
+        marks("A=B;E=e;D=E;C=D;B=C;", "11111");
+        marks("A=aB;B=bC;B=b;C=Cc;D=d;D=A;", "101000");
+        marks("A=a;A=aB;B=bA;B=Cc;C=Cd;", "11100");
+        longerThanAnyRow();
+    }
+
+    // The shortest tree here has 27 tokens: no row is so long, yet the rules are useful.
+    private static void longerThanAnyRow() {
+        marks("A=BBB;B=CCC;C=ccc;", "111");
+        marks("A=a;A=BBB;B=CCC;C=ccc;D=AB;", "11110");
+    }
+}
