@@ -15,7 +15,8 @@ public final class RankedTrees {
     private static final int LETTERS = 5;
     private static final int ALL_LETTERS = (1 << LETTERS) - 1;
     private static final int RANKS = 8;
-    private static final int CELLS = MOST_TOKENS * MOST_TOKENS * LETTERS;
+    private static final int SPANS = MOST_TOKENS * (MOST_TOKENS + 1) / 2;
+    private static final int CELLS = SPANS * LETTERS;
 
     private final Text text;
     private final Reader reader;
@@ -193,17 +194,27 @@ public final class RankedTrees {
         return 1 << (letter - 'A');
     }
 
+    // Spans are numbered by their ends, those with the same end by their beginnings.
     private static int cellOf(int letter, int from, int to) {
-        return (from * MOST_TOKENS + to - 1) * LETTERS + letter - 'A';
+        return (spansBefore(to) + from) * LETTERS + letter - 'A';
+    }
+
+    private static int spansBefore(int to) {
+        return to * (to - 1) / 2;
     }
 
     // A tree's number tells its cell, and with it its span: neither has to be kept beside it.
     private static int fromOf(int tree) {
-        return tree / (RANKS * LETTERS * MOST_TOKENS);
+        return tree / (RANKS * LETTERS) - spansBefore(toOf(tree));
     }
 
     private static int toOf(int tree) {
-        return tree / (RANKS * LETTERS) % MOST_TOKENS + 1;
+        int span = tree / (RANKS * LETTERS);
+        int to = 1;
+        while (to < MOST_TOKENS && spansBefore(to + 1) <= span) {
+            to++;
+        }
+        return to;
     }
 
     /** The text as it has been written. */
@@ -463,20 +474,21 @@ public final class RankedTrees {
             if (weights[tree] != weights[other]) {
                 return weights[tree] < weights[other];
             }
-            return compareRules(tree, other, 0) < 0;
+            return compareRules(this, tree, other, 0) < 0;
         }
 
-        // Trees for one letter never have rules that only begin alike, so parts compare in turn.
-        private int compareRules(int tree, int other, int depth) {
+        // Of two trees for one letter neither's rules are just the beginning of the other's, so
+        // the parts may be compared one by one, whatever their spans.
+        private static int compareRules(Forest forest, int tree, int other, int depth) {
             if (tree == other || depth > DEEPEST) {
                 return 0;
             }
-            int found = ownRules[tree] - ownRules[other];
+            int found = forest.ownRules[tree] - forest.ownRules[other];
             for (int part = 0; part < MOST_SYMBOLS && found == 0; part++) {
-                int child = children[tree * MOST_SYMBOLS + part];
-                int otherChild = children[other * MOST_SYMBOLS + part];
+                int child = forest.children[tree * MOST_SYMBOLS + part];
+                int otherChild = forest.children[other * MOST_SYMBOLS + part];
                 if (child != NONE && otherChild != NONE) {
-                    found = compareRules(child, otherChild, depth + 1);
+                    found = compareRules(forest, child, otherChild, depth + 1);
                 }
             }
             return found;
