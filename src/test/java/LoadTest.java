@@ -33,7 +33,7 @@ public final class LoadTest {
             "A=F;", "A=aF;", "A=@;", "A=`;", "A={;", "A=1;", "A=aaaa;", "A=a:;", "A=a:", "A=a:1",
             "A=a:1000;", "A=a:0001;", "A=a:a;", "A=a:-1;", "A=a:1a;", "A=a::1;", "A=a: 1;",
             " A=a;", "A =a;", "A= a;", "A=a ;", "A==a;", "AA=a;", "A=a:/;", "A=:1;", "A=a:1:2;",
-            "A=a,"};
+            "A=a,", "A=a:1/;", "A=a:1:;", "A=a:12+;"};
         for (String text : wrong) {
             answers(text, -1);
             answers("B=b;" + text, text.isEmpty() ? 0 : -2);

@@ -76,6 +76,7 @@ public final class RuleTest {
         marks("A=B;B=C;C=D;D=E;E=e;", "11111");
         marks("E=e;D=E;C=D;B=C;A=B;", "10000");
         marks("A=B;E=e;D=E;C=D;B=C;", "11111");
+        marks("A=Ax;E=e;D=E;C=D;B=C;A=B;", "111111");
         marks("A=aB;B=bC;B=b;C=Cc;D=d;D=A;", "101000");
         marks("A=a;A=aB;B=bA;B=Cc;C=Cd;", "11100");
         longerThanAnyRow();
