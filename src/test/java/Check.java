@@ -49,6 +49,15 @@ final class Check {
         }
     }
 
+    /** The answer as a text, or the name of what the call threw. */
+    static String answer(Call call) {
+        try {
+            return String.valueOf(call.answer());
+        } catch (RuntimeException e) {
+            return "throws." + e.getClass().getSimpleName();
+        }
+    }
+
     /** The characters as write takes them, the first in the lowest byte. */
     static long packed(String characters) {
         long bytes = 0;
@@ -71,6 +80,11 @@ final class Check {
         return x.load();
     }
 
+    /** What load answers when the text is all that a new object has. */
+    static void loads(String text, int want) {
+        same("load of " + text, load(new RankedTrees(), text), want);
+    }
+
     static RankedTrees loaded(String text, String tokens) {
         RankedTrees x = new RankedTrees();
         same("load " + text, load(x, text), 0);
@@ -88,7 +102,8 @@ final class Check {
     /** A tree of the row as its rules with their spans: "0(0,2) 1(0,1) 1(1,2)". */
     static String tree(RankedTrees x, int k) {
         StringBuilder all = new StringBuilder();
-        for (int i = 0; i < x.size(k); i++) {
+        int size = x.size(k);
+        for (int i = 0; i < size; i++) {
             all.append(i == 0 ? "" : " ").append(x.at(k, i, 0));
             all.append('(').append(x.at(k, i, 1)).append(',').append(x.at(k, i, 2)).append(')');
         }

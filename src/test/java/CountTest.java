@@ -10,6 +10,10 @@ public final class CountTest {
         uselessRulesDoNotCount();
         wrongArguments();
         answersFollowTheState();
+        noGrammar();
+        everyLetter();
+        everySpan();
+        uselessOnBothSides();
         Check.end();
     }
 
@@ -134,5 +138,91 @@ public final class CountTest {
         Check.same("load", Check.load(x, "B=bab;"), 0);
         Check.same("trees with another start", x.trees(), 1);
         Check.same("ways for the old start", x.ways('A', 0, 3), 0);
+    }
+
+    // "there is no grammar", whatever else is wrong, until a load answers 0
+    private static void noGrammar() {
+        RankedTrees x = new RankedTrees();
+        Check.row(x, "ab");
+        String[] bad = {"", "A=ab", "A=ab;A=ab;", "A=A;A=ab;"};
+        for (String text : bad) {
+            Check.holds("a fault", Check.load(x, text) != 0);
+            Check.refused("trees", Check.STATE, x::trees);
+            Check.refused("ways", Check.STATE, () -> x.ways('A', 0, 2));
+            Check.refused("ways of no letter", Check.STATE, () -> x.ways('F', 0, 2));
+            Check.refused("ways of no span", Check.STATE, () -> x.ways('A', 2, 3));
+        }
+        Check.same("load", Check.load(x, "A=ab;"), 0);
+        Check.same("trees", x.trees(), 1);
+        Check.same("ways", x.ways('A', 0, 2), 1);
+        // A load that fails later takes no grammar away.
+        Check.same("load of an empty text", Check.load(x, ""), -1);
+        Check.same("trees", x.trees(), 1);
+    }
+
+    // "letter is none of these"
+    private static void everyLetter() {
+        RankedTrees x = null;
+        for (int code = 0; code <= 65535; code++) {
+            if (code % 400 == 0) {
+                x = Check.loaded("A=BCD;B=a;C=b;D=E;E=c;", "abc");
+            }
+            RankedTrees now = x;
+            char letter = (char) code;
+            if (code >= 65 && code <= 69) {
+                Check.same("ways of " + letter, now.ways(letter, 0, 1), letter == 'B' ? 1 : 0);
+                Check.same("ways of " + letter, now.ways(letter, 2, 3), letter >= 'D' ? 1 : 0);
+            } else {
+                Check.refused("ways of " + code, Check.ARGUMENT, () -> now.ways(letter, 0, 1));
+            }
+        }
+    }
+
+    // "(from, to) is no span of the row": the row's length is the last to, and from is below it
+    private static void everySpan() {
+        for (int length = 0; length <= 6; length++) {
+            RankedTrees x = Check.loaded("A=aA;A=a;", "aaaaaa".substring(6 - length));
+            for (int from = -2; from <= 8; from++) {
+                for (int to = -2; to <= 8; to++) {
+                    everySpan(x, from, to, from >= 0 && from < to && to <= length);
+                }
+            }
+            Check.same("the row stays", x.drop(), length);
+        }
+    }
+
+    private static void everySpan(RankedTrees x, int from, int to, boolean there) {
+        String call = "ways of (" + from + ", " + to + ")";
+        if (there) {
+            Check.same(call, x.ways('A', from, to), 1);
+            Check.same(call + " for E", x.ways('E', from, to), 0);
+        } else {
+            Check.refused(call, Check.INDEX, () -> x.ways('A', from, to));
+            Check.refused(call + " for F", Check.ARGUMENT, () -> x.ways('F', from, to));
+        }
+    }
+
+    /** How many trees of useful rules each letter A .. E has for the row's only token. */
+    private static void waysOfX(String text, long... want) {
+        RankedTrees x = Check.loaded(text, "x");
+        for (int k = 0; k < 5; k++) {
+            char letter = (char) ('A' + k);
+            Check.same("ways of " + letter + " by " + text, x.ways(letter, 0, 1), want[k]);
+        }
+    }
+
+    // "trees whose rules are all useful"
+    private static void uselessOnBothSides() {
+        waysOfX("A=a;B=x;", 0, 0, 0, 0, 0);
+        waysOfX("A=aB;B=x;", 0, 1, 0, 0, 0);
+        waysOfX("A=a;A=BC;B=x;", 0, 0, 0, 0, 0);
+        waysOfX("A=a;A=BC;B=x;C=c;", 0, 1, 0, 0, 0);
+        waysOfX("A=aB;B=x;B=C;C=D;D=x;D=E;E=E;", 0, 2, 1, 1, 0);
+        waysOfX("A=aB;B=x;C=B;D=B;D=x;", 0, 1, 0, 0, 0);
+        waysOfX("C=x;A=x;B=x;D=x;E=x;", 0, 0, 1, 0, 0);
+        // A useful letter may have a rule that is not.
+        waysOfX("A=Bx;B=x;B=CE;C=x;D=C;", 0, 1, 0, 0, 0);
+        // No row is long enough for these trees of A, yet their rules are useful.
+        waysOfX("A=BBB;B=CCC;C=x;C=D;D=x;", 0, 0, 2, 1, 0);
     }
 }

@@ -60,27 +60,42 @@ public final class FaceTest {
     }
 
     private static void addIfSeen(List<String> seen, Member member, String text) {
-        if (!Modifier.isPrivate(member.getModifiers())) {
+        if (!Modifier.isPrivate(member.getModifiers()) && !member.isSynthetic()) {
             seen.add(text);
         }
     }
 
     private static void classesInside() {
-        Set<String> names = new HashSet<>();
-        for (Method method : RankedTrees.class.getMethods()) {
-            names.add(method.getName());
-        }
+        checkNames(RankedTrees.class);
         for (Class<?> inside : RankedTrees.class.getDeclaredClasses()) {
             Check.holds(inside + " is static", Modifier.isStatic(inside.getModifiers()));
             Check.fails(inside + " is public", Modifier.isPublic(inside.getModifiers()));
-            for (Method method : inside.getDeclaredMethods()) {
+            Check.fails(inside + " is protected", Modifier.isProtected(inside.getModifiers()));
+            checkNames(inside);
+            checkFields(inside);
+        }
+        checkFields(RankedTrees.class);
+    }
+
+    private static void checkNames(Class<?> where) {
+        Set<String> names = new HashSet<>();
+        for (Method method : RankedTrees.class.getDeclaredMethods()) {
+            if (Modifier.isPublic(method.getModifiers())) {
+                names.add(method.getName());
+            }
+        }
+        for (Method method : where.getDeclaredMethods()) {
+            if (Modifier.isPrivate(method.getModifiers())) {
                 Check.fails(method + " has a public name", names.contains(method.getName()));
             }
-            for (Field field : inside.getDeclaredFields()) {
-                int modifiers = field.getModifiers();
-                Check.holds(field + " is no static state",
-                        !Modifier.isStatic(modifiers) || Modifier.isFinal(modifiers));
-            }
+        }
+    }
+
+    private static void checkFields(Class<?> where) {
+        for (Field field : where.getDeclaredFields()) {
+            int modifiers = field.getModifiers();
+            Check.holds(field + " is no static state",
+                    !Modifier.isStatic(modifiers) || Modifier.isFinal(modifiers));
         }
     }
 }

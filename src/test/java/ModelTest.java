@@ -1,64 +1,30 @@
 import java.util.List;
-import java.util.Random;
 
 /** Promises 4 to 13 against a model that lists all trees, over grammars drawn by a fixed seed. */
 public final class ModelTest {
-    private static final int OBJECTS = 1500;
+    private static final int GRAMMARS = 3000;
     private static final long MOST_TREES = 3000;
 
-    private static final Random RANDOM = new Random(20261115);
-
     public static void main(String[] args) {
-        for (int k = 0; k < OBJECTS; k++) {
-            followOneObject();
+        Draw draw = new Draw(20261115);
+        for (int k = 0; k < GRAMMARS; k++) {
+            compare(draw.text(), draw.row(draw.below(7)));
+            compare(draw.richText(), draw.row(1 + draw.below(6)));
         }
         Check.end();
     }
 
-    // One object lives through several texts and rows, so that nothing old may shine through.
-    private static void followOneObject() {
-        RankedTrees x = new RankedTrees();
-        Model model = null;
-        String row = "";
-        for (int step = 0; step < 6; step++) {
-            if (RANDOM.nextInt(3) > 0) {
-                String text = drawText();
-                Model read = new Model(text);
-                Check.same("load of " + text, Check.load(x, text), read.fault);
-                model = read.fault == 0 ? read : model;
-            }
-            if (RANDOM.nextInt(3) == 0) {
-                Check.same("drop", x.drop(), row.length());
-                row = "";
-            }
-            for (int more = RANDOM.nextInt(4); more > 0 && row.length() < 6; more--) {
-                row += (char) ('a' + RANDOM.nextInt(2));
-                Check.same("token", x.token(row.charAt(row.length() - 1)), row.length());
-            }
-            if (model != null) {
-                compareRules(x, model);
-                compareTrees(x, model, row);
-            }
+    private static void compare(String text, String row) {
+        Model model = new Model(text);
+        Check.loads(text, model.fault);
+        if (model.fault != 0) {
+            return;
         }
-    }
-
-    private static String drawText() {
-        int letters = 1 + RANDOM.nextInt(5);
-        int heaviest = 1 + RANDOM.nextInt(4);
-        StringBuilder text = new StringBuilder();
-        int rules = 1 + RANDOM.nextInt(RANDOM.nextInt(8) == 0 ? 16 : 9);
-        for (int k = 0; k < rules; k++) {
-            text.append((char) ('A' + RANDOM.nextInt(letters))).append('=');
-            for (int parts = 1 + RANDOM.nextInt(3); parts > 0; parts--) {
-                boolean letter = RANDOM.nextInt(5) < 2;
-                text.append((char) (letter ? 'A' + RANDOM.nextInt(letters) : 'a' + RANDOM.nextInt(2)));
-            }
-            if (RANDOM.nextInt(2) == 0) {
-                text.append(':').append(RANDOM.nextInt(heaviest));
-            }
-            text.append(RANDOM.nextInt(150) == 0 ? "" : ";");
+        compareRules(Check.loaded(text, row), model);
+        compareWays(Check.loaded(text, row), model, row);
+        if (Check.loaded(text, row).trees() <= MOST_TREES) {
+            compareTrees(text, row, model.ranked(row));
         }
-        return text.toString();
     }
 
     private static void compareRules(RankedTrees x, Model model) {
@@ -75,7 +41,7 @@ public final class ModelTest {
         }
     }
 
-    private static void compareTrees(RankedTrees x, Model model, String row) {
+    private static void compareWays(RankedTrees x, Model model, String row) {
         for (int from = 0; from < row.length(); from++) {
             for (int to = from + 1; to <= row.length(); to++) {
                 for (char letter = 'A'; letter <= 'E'; letter++) {
@@ -83,12 +49,13 @@ public final class ModelTest {
                 }
             }
         }
-        if (x.trees() > MOST_TREES) {
-            return;
-        }
-        List<Model.Tree> ranked = model.ranked(row);
-        Check.same("trees", x.trees(), ranked.size());
+    }
+
+    // Each tree is asked of an object of its own: an object is good for 512 calls.
+    private static void compareTrees(String text, String row, List<Model.Tree> ranked) {
+        Check.same("trees", Check.loaded(text, row).trees(), ranked.size());
         for (int k = 0; k < 8; k++) {
+            RankedTrees x = Check.loaded(text, row);
             int rank = k;
             if (k < ranked.size()) {
                 compareTree(x, k, ranked.get(k));

@@ -13,6 +13,7 @@ public final class NewObjectTest {
         Check.same("load of an empty text", x.load(), -1);
         Check.write(x, "A=a;");
         Check.same("load of what was written alone", x.load(), 0);
+        Check.same("room of the text", Portrait.roomOfText(new RankedTrees()), 240);
     }
 
     private static void noGrammar() {
@@ -34,6 +35,11 @@ public final class NewObjectTest {
     private static void emptyRow() {
         Check.same("drop", new RankedTrees().drop(), 0);
         Check.same("token", new RankedTrees().token('a'), 1);
+        Check.same("room of the row", Portrait.roomOfRow(new RankedTrees()), 6);
+        RankedTrees x = Check.loaded("A=a;", "");
+        Check.same("trees", x.trees(), 0);
+        Check.refused("ways", Check.INDEX, () -> x.ways('A', 0, 1));
+        Check.refused("weight", Check.ELEMENT, () -> x.weight(0));
     }
 
     private static void objectsAreApart() {

@@ -1,5 +1,12 @@
 /** Promises 11, 12 and 13: weight, size and at. */
 public final class RankTest {
+    // The row x has as many trees as the place of the text in this list, from 0.
+    private static final String[] BY_TREES = {"A=y;", "A=x;", "A=x;A=B;B=x;",
+        "A=x;A=B;B=x;B=C;C=x;", "A=x;A=B;B=x;B=C;C=x;C=D;D=x;",
+        "A=x;A=B;B=x;B=C;C=x;C=D;D=x;D=E;E=x;", "A=x;A=B;B=x;B=C;C=x;C=D;D=x;D=E;E=x;A=E;",
+        "A=x;A=B;B=x;B=C;C=x;C=D;D=x;D=E;E=x;A=D;", "A=x;A=B;B=x;B=C;C=x;C=D;D=x;D=E;E=x;A=C;",
+        "A=x;A=B;B=x;B=C;C=x;C=D;D=x;D=E;E=x;A=C;A=E;"};
+
     public static void main(String[] args) {
         lessWeightComesFirst();
         theLesserRuleComesFirst();
@@ -11,6 +18,10 @@ public final class RankTest {
         heavyTrees();
         wrongArguments();
         answersFollowTheState();
+        noGrammar();
+        asManyTreesAsThereAre();
+        everyPlaceAndWhat();
+        moreThanEightTrees();
         Check.end();
     }
 
@@ -154,5 +165,98 @@ public final class RankTest {
         ranks(x, "7: 2(0,2) 0(0,1)");
         Check.same("load", Check.load(x, "C=Ca;"), 0);
         ranks(x);
+    }
+
+    // "there is no grammar", whatever else is wrong, until a load answers 0
+    private static void noGrammar() {
+        RankedTrees x = new RankedTrees();
+        Check.row(x, "ab");
+        String[] bad = {"", "A=ab", "A=ab;A=ab;", "A=A;A=ab;"};
+        for (String text : bad) {
+            Check.holds("a fault", Check.load(x, text) != 0);
+            for (int k = -1; k <= 8; k++) {
+                int rank = k;
+                Check.refused("weight(" + k + ")", Check.STATE, () -> x.weight(rank));
+                Check.refused("size(" + k + ")", Check.STATE, () -> x.size(rank));
+                Check.refused("at(" + k + ", 0, 0)", Check.STATE, () -> x.at(rank, 0, 0));
+                Check.refused("at(0, " + k + ", 0)", Check.STATE, () -> x.at(0, rank, 0));
+                Check.refused("at(0, 0, " + k + ")", Check.STATE, () -> x.at(0, 0, rank));
+            }
+        }
+        Check.same("load", Check.load(x, "A=ab:6;"), 0);
+        ranks(x, "6: 0(0,2)");
+    }
+
+    // "k is not 0 .. 7", "the row has no k-th tree"
+    private static void asManyTreesAsThereAre() {
+        for (int trees = 0; trees < BY_TREES.length; trees++) {
+            RankedTrees x = Check.loaded(BY_TREES[trees], "x");
+            Check.same("trees", x.trees(), trees);
+            int last = 0;
+            for (int k = -2; k <= 10; k++) {
+                int rank = k;
+                if (k < 0 || k > 7) {
+                    refusedRank(x, k, Check.ARGUMENT);
+                } else if (k >= trees) {
+                    refusedRank(x, k, Check.ELEMENT);
+                } else {
+                    Check.holds("the weights rise", x.weight(k) >= last);
+                    last = x.weight(k);
+                    Check.same("each rule weighs 1", x.size(k), last);
+                    Check.refused("behind it", Check.INDEX, () -> x.at(rank, x.size(rank), 0));
+                }
+            }
+        }
+    }
+
+    private static void refusedRank(RankedTrees x, int k, Class<? extends RuntimeException> want) {
+        Check.refused("weight(" + k + ")", want, () -> x.weight(k));
+        Check.refused("size(" + k + ")", want, () -> x.size(k));
+        for (int i : new int[] {-1, 0, 1, 99}) {
+            for (int what = 0; what <= 2; what++) {
+                int which = what;
+                Check.refused("at(" + k + ", " + i + ")", want, () -> x.at(k, i, which));
+            }
+            Check.refused("at(" + k + ", " + i + ", 3)", Check.ARGUMENT, () -> x.at(k, i, 3));
+            Check.refused("at(" + k + ", " + i + ", -1)", Check.ARGUMENT, () -> x.at(k, i, -1));
+        }
+    }
+
+    // "that has no i-th rule", "what not 0 .. 2"
+    private static void everyPlaceAndWhat() {
+        RankedTrees x = Check.loaded("A=xBy:0;A=xzy:5;B=C:2;C=z:1;", "xzy");
+        int[][][] want = {{{0, 0, 3}, {2, 1, 2}, {3, 1, 2}}, {{1, 0, 3}}};
+        for (int k = 0; k < 2; k++) {
+            Check.same("size", x.size(k), want[k].length);
+            for (int i = -2; i <= 5; i++) {
+                for (int what = -2; what <= 4; what++) {
+                    everyPlaceAndWhat(x, k, i, what, want[k]);
+                }
+            }
+        }
+    }
+
+    private static void everyPlaceAndWhat(RankedTrees x, int k, int i, int what, int[][] want) {
+        String call = "at(" + k + ", " + i + ", " + what + ")";
+        if (what < 0 || what > 2) {
+            Check.refused(call, Check.ARGUMENT, () -> x.at(k, i, what));
+        } else if (i < 0 || i >= want.length) {
+            Check.refused(call, Check.INDEX, () -> x.at(k, i, what));
+        } else {
+            Check.same(call, x.at(k, i, what), want[i][what]);
+        }
+    }
+
+    // Eight of the many are told, and the others are counted.
+    private static void moreThanEightTrees() {
+        RankedTrees x = Check.loaded("A=AA:0;A=x:0;", "xxxxxx");
+        Check.same("trees", x.trees(), 42);
+        Check.text("tree 7", Check.tree(x, 7), "0(0,6) 0(0,5) 0(0,3) 1(0,1) 0(1,3) 1(1,2) 1(2,3)"
+                + " 0(3,5) 1(3,4) 1(4,5) 1(5,6)");
+        refusedRank(x, 8, Check.ARGUMENT);
+        refusedRank(x, 41, Check.ARGUMENT);
+        refusedRank(x, 42, Check.ARGUMENT);
+        refusedRank(x, Integer.MIN_VALUE, Check.ARGUMENT);
+        refusedRank(x, Integer.MAX_VALUE, Check.ARGUMENT);
     }
 }

@@ -6,6 +6,9 @@ public final class RowTest {
         aFullRow();
         dropEmpties();
         theRowIsRead();
+        everyChar();
+        eachLength();
+        aRefusedTokenIsNotPut();
         Check.end();
     }
 
@@ -62,5 +65,55 @@ public final class RowTest {
         Check.same("b", x.at(0, 0, 0), 2);
         Check.row(x, "bca");
         Check.same("bca", x.trees(), 0);
+    }
+
+    // "c is not a .. z"
+    private static void everyChar() {
+        RankedTrees x = new RankedTrees();
+        for (int code = 0; code <= 65535; code++) {
+            if (code % 256 == 0) {
+                x = new RankedTrees();
+            }
+            RankedTrees now = x;
+            char c = (char) code;
+            if (code >= 97 && code <= 122) {
+                Check.same("token " + code, now.token(c), 1);
+                Check.same("drop", now.drop(), 1);
+            } else {
+                Check.refused("token " + code, Check.ARGUMENT, () -> now.token(c));
+            }
+        }
+    }
+
+    // "how many it has then", "how many tokens it had", "6 are there"
+    private static void eachLength() {
+        RankedTrees x = new RankedTrees();
+        for (int length = 0; length <= 6; length++) {
+            for (int k = 1; k <= length; k++) {
+                Check.same("token", x.token('q'), k);
+            }
+            if (length == 6) {
+                Check.refused("a 7th", Check.STATE, () -> x.token('q'));
+                Check.refused("a 7th again", Check.STATE, () -> x.token('a'));
+            }
+            Check.same("drop of " + length, x.drop(), length);
+            Check.same("drop of none", x.drop(), 0);
+            Check.same("room", Portrait.roomOfRow(x), 6);
+            Check.same("drop of all", x.drop(), 6);
+        }
+    }
+
+    private static void aRefusedTokenIsNotPut() {
+        RankedTrees x = Check.loaded("A=aA;A=b;", "");
+        for (int k = 1; k <= 6; k++) {
+            Check.refused("token {", Check.ARGUMENT, () -> x.token('{'));
+            Check.same("token", x.token(k == 6 ? 'b' : 'a'), k);
+            Check.refused("token `", Check.ARGUMENT, () -> x.token('`'));
+            Check.same("trees", x.trees(), k == 6 ? 1 : 0);
+        }
+        Check.refused("a 7th", Check.STATE, () -> x.token('b'));
+        Check.refused("a 7th that is no token", Check.ARGUMENT, () -> x.token('B'));
+        Check.same("trees", x.trees(), 1);
+        Check.same("size", x.size(0), 6);
     }
 }

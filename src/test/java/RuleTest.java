@@ -6,6 +6,8 @@ public final class RuleTest {
         rowsAreUsedAgain();
         wrongArguments();
         useful();
+        rulesFollowLoadAlone();
+        everyKAndWhat();
         Check.end();
     }
 
@@ -50,6 +52,56 @@ public final class RuleTest {
         int[] whats = {6, 7, -1, Integer.MAX_VALUE, Integer.MIN_VALUE};
         for (int what : whats) {
             Check.refused("rule(1, " + what + ")", Check.ARGUMENT, () -> x.rule(1, what));
+        }
+    }
+
+    // "(0 without a grammar)"
+    private static void rulesFollowLoadAlone() {
+        RankedTrees x = new RankedTrees();
+        Check.same("rules of a new object", x.rules(), 0);
+        Check.same("a load that fails", Check.load(x, "A=a;A=b"), -2);
+        Check.same("rules behind it", x.rules(), 0);
+        Check.same("a load that comes round", Check.load(x, "A=a;A=A;"), RankedTrees.ROUND);
+        Check.same("rules behind it", x.rules(), 0);
+        Check.refused("rule(0, 0)", Check.INDEX, () -> x.rule(0, 0));
+        Check.same("load", Check.load(x, "A=a;A=b;A=c;"), 0);
+        Check.same("rules behind it", x.rules(), 3);
+        Check.same("a load that fails", Check.load(x, "A=a;A=b;A=c;A=d;A=e"), -5);
+        Check.same("rules stay", x.rules(), 3);
+        x.wipe();
+        Check.same("rules stay", x.rules(), 3);
+        x.token('a');
+        x.drop();
+        Check.same("rules stay", x.rules(), 3);
+        Check.same("load of fewer", Check.load(x, "A=a;"), 0);
+        Check.same("rules", x.rules(), 1);
+        Check.refused("rule(1, 0)", Check.INDEX, () -> x.rule(1, 0));
+    }
+
+    private static void everyKAndWhat() {
+        for (int rules = 0; rules <= 14; rules += 7) {
+            RankedTrees x = new RankedTrees();
+            String text = "E=aBz:321;B=a;B=b;B=c;B=d;B=e;B=f;B=g;B=h;B=i;B=j;B=k;B=l;B=m;";
+            Check.same("load", Check.load(x, text.substring(0, rules == 0 ? 0 : 6 + 4 * rules)),
+                    rules == 0 ? -1 : 0);
+            for (int k = -2; k <= 16; k++) {
+                for (int what = -2; what <= 8; what++) {
+                    everyKAndWhat(x, k, what, rules);
+                }
+            }
+        }
+    }
+
+    private static void everyKAndWhat(RankedTrees x, int k, int what, int rules) {
+        String call = "rule(" + k + ", " + what + ") of " + rules;
+        if (k < 0 || k >= rules) {
+            Check.refused(call, Check.INDEX, () -> x.rule(k, what));
+        } else if (what < 0 || what > 5) {
+            Check.refused(call, Check.ARGUMENT, () -> x.rule(k, what));
+        } else {
+            int[] first = {'E', 'a', 'B', 'z', 321, 1};
+            int[] later = {'B', 'a' + k - 1, 0, 0, 1, 1};
+            Check.same(call, x.rule(k, what), k == 0 ? first[what] : later[what]);
         }
     }
 

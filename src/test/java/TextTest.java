@@ -2,12 +2,19 @@
 public final class TextTest {
     public static void main(String[] args) {
         lowestByteFirst();
+        eachByteInItsTurn();
         zeroBytesAreLeftOut();
         onlyCharacters32To126();
         aRefusedWriteAddsNone();
+        oneBadByteAmongGoodOnes();
         atMost240();
+        theLastThatFits();
+        roomIsForCharactersNotBytes();
+        badAndTooMany();
         aRefusedWriteBeyond240AddsNone();
         wipeEmpties();
+        wipeOfAFullText();
+        writeChangesTheTextAlone();
         Check.end();
     }
 
@@ -18,6 +25,20 @@ public final class TextTest {
         int[] want = {'B', 'a', 'b', 'c', 2};
         for (int what = 0; what < want.length; what++) {
             Check.same("rule(0, " + what + ")", x.rule(0, what), want[what]);
+        }
+    }
+
+    private static void eachByteInItsTurn() {
+        String text = "A=abc:7;";
+        for (int split = 0; split <= 8; split++) {
+            RankedTrees x = new RankedTrees();
+            long all = Check.packed(text);
+            long low = split == 8 ? all : all & ((1L << (8 * split)) - 1);
+            Check.holds("write of the low bytes", x.write(low));
+            Check.holds("write of the high bytes in their places", x.write(all - low));
+            Check.same("load", x.load(), 0);
+            Check.same("third symbol", x.rule(0, 3), 'c');
+            Check.same("weight", x.rule(0, 4), 7);
         }
     }
 
@@ -53,6 +74,59 @@ public final class TextTest {
             Check.same("load", x.load(), 0);
             Check.same("rules", x.rules(), 1);
         }
+    }
+
+    // Seven good characters do not save the eighth, wherever it stands.
+    private static void oneBadByteAmongGoodOnes() {
+        long good = Check.packed("AAAAAAAA");
+        for (int place = 0; place < 8; place++) {
+            long rest = good & ~(255L << (8 * place));
+            for (int code = 0; code < 256; code++) {
+                RankedTrees x = new RankedTrees();
+                boolean fine = code == 0 || code >= 32 && code <= 126;
+                boolean got = x.write(rest | (long) code << (8 * place));
+                Check.same("write of " + code + " at " + place, got ? 1 : 0, fine ? 1 : 0);
+                int added = code == 0 ? 7 : fine ? 8 : 0;
+                Check.same("room behind " + code, Portrait.roomOfText(x), 240 - added);
+            }
+        }
+    }
+
+    private static RankedTrees written(int characters) {
+        RankedTrees x = new RankedTrees();
+        Check.write(x, "A=a;B=b;".repeat(30).substring(0, characters));
+        return x;
+    }
+
+    // "there would be more than 240"
+    private static void theLastThatFits() {
+        for (int before = 230; before <= 240; before++) {
+            for (int more = 0; more <= 8; more++) {
+                RankedTrees x = written(before);
+                boolean fits = before + more <= 240;
+                boolean got = x.write(Check.packed("########".substring(8 - more)));
+                Check.same(more + " behind " + before, got ? 1 : 0, fits ? 1 : 0);
+                int room = 240 - before - (fits ? more : 0);
+                Check.same("room behind " + before, Portrait.roomOfText(x), room);
+            }
+        }
+    }
+
+    private static void roomIsForCharactersNotBytes() {
+        for (int place = 0; place < 8; place++) {
+            RankedTrees x = written(239);
+            Check.holds("the 240th in byte " + place, x.write((long) ';' << (8 * place)));
+            Check.fails("the 241st in byte " + place, x.write((long) ';' << (8 * place)));
+            Check.holds("none behind the 240th", x.write(0));
+        }
+    }
+
+    private static void badAndTooMany() {
+        RankedTrees x = written(236);
+        Check.fails("bad in the room", x.write(Check.packed("A\tAAAA")));
+        Check.fails("bad behind the room", x.write(Check.packed("AAAAA\t")));
+        Check.fails("bad, and few enough", x.write(Check.packed("AA\t")));
+        Check.same("room", Portrait.roomOfText(x), 4);
     }
 
     private static void atMost240() {
@@ -92,5 +166,32 @@ public final class TextTest {
         Check.write(x, "B=c;");
         Check.same("load of the new text", x.load(), 0);
         Check.same("rules of the new text", x.rules(), 1);
+    }
+
+    private static void wipeOfAFullText() {
+        RankedTrees x = written(240);
+        Check.fails("write to the full text", x.write(Check.packed("A")));
+        x.wipe();
+        Check.same("load", x.load(), -1);
+        Check.same("room", Portrait.roomOfText(x), 240);
+        x.wipe();
+        Check.same("room once more", Portrait.roomOfText(x), 240);
+    }
+
+    private static void writeChangesTheTextAlone() {
+        String grammar = "A=AA:2;A=a;B=b;";
+        String before = Portrait.seen(Check.loaded(grammar, "aaa"));
+        RankedTrees x = Check.loaded(grammar, "aaa");
+        Check.write(x, "C=c;");
+        Check.text("behind write", Portrait.seen(x), before);
+        x.wipe();
+        Check.write(x, "B=aaa;");
+        Check.text("behind another text", Portrait.seen(x), before);
+        Check.same("load", x.load(), 0);
+        Check.same("trees", x.trees(), 1);
+        Check.same("drop", x.drop(), 3);
+        RankedTrees y = Check.loaded(grammar, "aaa");
+        y.wipe();
+        Check.text("behind wipe", Portrait.seen(y), before);
     }
 }
