@@ -10,6 +10,10 @@ final class Check {
     static final Class<java.util.NoSuchElementException> ELEMENT =
             java.util.NoSuchElementException.class;
 
+    /** As many rules as a grammar may have, of four characters each. */
+    static final String FOURTEEN =
+            "A=a;A=b;A=c;A=d;A=e;A=f;A=g;A=h;A=i;A=j;A=k;A=l;A=m;A=n;";
+
     private static int done = 0;
     private static int wrong = 0;
 
@@ -108,6 +112,28 @@ final class Check {
             all.append('(').append(x.at(k, i, 1)).append(',').append(x.at(k, i, 2)).append(')');
         }
         return all.toString();
+    }
+
+    /** The row's trees up to the eighth, each as its weight and its rules, and no more of them. */
+    static void ranks(RankedTrees x, String... want) {
+        same("trees that are told", Math.min(x.trees(), 8), want.length);
+        for (int k = 0; k < want.length; k++) {
+            text("tree " + k, x.weight(k) + ": " + tree(x, k), want[k]);
+        }
+        int behind = want.length;
+        Class<? extends RuntimeException> refusal = behind < 8 ? ELEMENT : ARGUMENT;
+        refused("weight(" + behind + ")", refusal, () -> x.weight(behind));
+    }
+
+    /** Which rules of a good text are useful: a digit for each, 1 when it is. */
+    static void useful(String text, String want) {
+        RankedTrees x = loaded(text, "");
+        StringBuilder got = new StringBuilder();
+        int rules = x.rules();
+        for (int k = 0; k < rules; k++) {
+            got.append(x.rule(k, 5));
+        }
+        text("useful of " + text, got.toString(), want);
     }
 
     private static void fault(String text) {

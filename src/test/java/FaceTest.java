@@ -35,7 +35,8 @@ public final class FaceTest {
     };
 
     public static void main(String[] args) {
-        Check.text("modifiers", Modifier.toString(RankedTrees.class.getModifiers()), "public final");
+        String modifiers = Modifier.toString(RankedTrees.class.getModifiers());
+        Check.text("modifiers", modifiers, "public final");
         Check.same("ROUND", RankedTrees.ROUND, -1000);
         theFaceAndNoMore();
         classesInside();

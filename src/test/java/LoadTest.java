@@ -1,8 +1,5 @@
 /** Promise 4: load. */
 public final class LoadTest {
-    private static final String FOURTEEN =
-            "A=a;A=b;A=c;A=d;A=e;A=f;A=g;A=h;A=i;A=j;A=k;A=l;A=m;A=n;";
-
     public static void main(String[] args) {
         goodTexts();
         wrongForms();
@@ -23,7 +20,7 @@ public final class LoadTest {
 
     private static void goodTexts() {
         String[] good = {"A=a;", "E=z;", "C=ABC;", "A=aBc:0;", "A=a:9;", "A=a:99;", "A=a:999;",
-            "A=a:000;", "B=a;A=b;B=aa;", "A=AAA;A=a;", "A=E;", FOURTEEN};
+            "A=a:000;", "B=a;A=b;B=aa;", "A=AAA;A=a;", "A=E;", Check.FOURTEEN};
         for (String text : good) {
             Check.loads(text, 0);
         }
@@ -59,13 +56,13 @@ public final class LoadTest {
     }
 
     private static void howMany() {
-        Check.loads(FOURTEEN, 0);
-        Check.loads(FOURTEEN + "A=o;", -15);
-        Check.loads(FOURTEEN + "A=a;", -15);
-        Check.loads(FOURTEEN + "A=o;B", -15);
-        Check.loads(FOURTEEN + " ", -15);
-        Check.loads(FOURTEEN.substring(0, 55), -14);
-        Check.loads(FOURTEEN.substring(0, 52) + "A=a;", -14);
+        Check.loads(Check.FOURTEEN, 0);
+        Check.loads(Check.FOURTEEN + "A=o;", -15);
+        Check.loads(Check.FOURTEEN + "A=a;", -15);
+        Check.loads(Check.FOURTEEN + "A=o;B", -15);
+        Check.loads(Check.FOURTEEN + " ", -15);
+        Check.loads(Check.FOURTEEN.substring(0, 55), -14);
+        Check.loads(Check.FOURTEEN.substring(0, 52) + "A=a;", -14);
     }
 
     private static void comesToItself() {
@@ -134,7 +131,7 @@ public final class LoadTest {
 
     /** The rules before the k-th one, from 1. */
     private static String before(int k) {
-        return FOURTEEN.substring(0, 4 * (k - 1));
+        return Check.FOURTEEN.substring(0, 4 * (k - 1));
     }
 
     // "the k-th one is not, is missing its ';', is the same as one before, or is the 15th"

@@ -12,7 +12,8 @@ final class Model {
     record Tree(int weight, List<int[]> rules) {
     }
 
-    private static final Pattern RULE = Pattern.compile("([A-E])=([A-Ea-z]{1,3})(?::([0-9]{1,3}))?;");
+    private static final Pattern RULE =
+            Pattern.compile("([A-E])=([A-Ea-z]{1,3})(?::([0-9]{1,3}))?;");
     // A tree that shows that a rule is useful needs no letter twice on the way to it or below.
     private static final int HEIGHT = 12;
 

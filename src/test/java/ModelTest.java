@@ -45,7 +45,8 @@ public final class ModelTest {
         for (int from = 0; from < row.length(); from++) {
             for (int to = from + 1; to <= row.length(); to++) {
                 for (char letter = 'A'; letter <= 'E'; letter++) {
-                    Check.same("ways", x.ways(letter, from, to), model.count(row, letter, from, to));
+                    long want = model.count(row, letter, from, to);
+                    Check.same("ways", x.ways(letter, from, to), want);
                 }
             }
         }

@@ -12,12 +12,13 @@ final class Portrait {
     }
 
     /**
-     * The text and the row as well, by using them up: the text is loaded with more behind it, and
-     * both are filled until they are full.
+     * The text and the row as well, by using them up: the text is loaded as it is and with more
+     * behind it, and both are filled until they are full.
      */
     static String spent(RankedTrees x, String behind) {
         StringBuilder all = new StringBuilder();
-        all.append("written ").append(x.write(Check.packed(behind)));
+        all.append("load ").append(x.load()).append(", rules ").append(x.rules());
+        all.append(", written ").append(x.write(Check.packed(behind)));
         all.append(", load ").append(x.load()).append('\n').append(seen(x));
         all.append("\nroom for ").append(roomOfText(x)).append(" characters");
         all.append(" and ").append(roomOfRow(x)).append(" tokens");

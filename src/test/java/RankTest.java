@@ -25,24 +25,13 @@ public final class RankTest {
         Check.end();
     }
 
-    private static void ranks(RankedTrees x, String... want) {
-        for (int k = 0; k < want.length; k++) {
-            Check.text("tree " + k, x.weight(k) + ": " + Check.tree(x, k), want[k]);
-        }
-        int behind = want.length;
-        if (behind < 8) {
-            Check.same("trees", x.trees(), behind);
-            Check.refused("weight(" + behind + ")", Check.ELEMENT, () -> x.weight(behind));
-        }
-    }
-
     private static void lessWeightComesFirst() {
-        ranks(Check.loaded("A=B:5;A=C:3;A=a:7;B=a:1;C=a:2;A=D:0;D=a:9;", "a"),
+        Check.ranks(Check.loaded("A=B:5;A=C:3;A=a:7;B=a:1;C=a:2;A=D:0;D=a:9;", "a"),
                 "5: 1(0,1) 4(0,1)", "6: 0(0,1) 3(0,1)", "7: 2(0,1)", "9: 5(0,1) 6(0,1)");
     }
 
     private static void theLesserRuleComesFirst() {
-        ranks(Check.loaded("A=AA;A=a;A=B;B=a:0;", "aa"),
+        Check.ranks(Check.loaded("A=AA;A=a;A=B;B=a:0;", "aa"),
                 "3: 0(0,2) 1(0,1) 1(1,2)",
                 "3: 0(0,2) 1(0,1) 2(1,2) 3(1,2)",
                 "3: 0(0,2) 2(0,1) 3(0,1) 1(1,2)",
@@ -50,13 +39,13 @@ public final class RankTest {
     }
 
     private static void weightComesBeforeRules() {
-        ranks(Check.loaded("A=BC:0;B=b:4;B=bb:1;C=bb:0;C=b:2;", "bbb"),
+        Check.ranks(Check.loaded("A=BC:0;B=b:4;B=bb:1;C=bb:0;C=b:2;", "bbb"),
                 "3: 0(0,3) 2(0,2) 4(2,3)", "4: 0(0,3) 1(0,1) 3(1,3)");
     }
 
     // Later rules do not count where an earlier one differs, nor does a part's own rank.
     private static void theFirstDifferenceDecides() {
-        ranks(Check.loaded("A=BB:0;B=a:2;B=C:1;C=a:0;C=D:0;D=a:1;", "aa"),
+        Check.ranks(Check.loaded("A=BB:0;B=a:2;B=C:1;C=a:0;C=D:0;D=a:1;", "aa"),
                 "2: 0(0,2) 2(0,1) 3(0,1) 2(1,2) 3(1,2)",
                 "3: 0(0,2) 1(0,1) 2(1,2) 3(1,2)",
                 "3: 0(0,2) 2(0,1) 3(0,1) 1(1,2)",
@@ -68,11 +57,11 @@ public final class RankTest {
     }
 
     private static void spansOfTheParts() {
-        ranks(Check.loaded("A=xBy:1;B=BbC:2;B=b:3;C=cC:4;C=c:5;", "xbbccy"),
+        Check.ranks(Check.loaded("A=xBy:1;B=BbC:2;B=b:3;C=cC:4;C=c:5;", "xbbccy"),
                 "15: 0(0,6) 1(1,5) 2(1,2) 3(3,5) 4(4,5)");
-        ranks(Check.loaded("A=BCD;B=b;B=bb;C=b;C=bb;D=b;", "bbbb"),
+        Check.ranks(Check.loaded("A=BCD;B=b;B=bb;C=b;C=bb;D=b;", "bbbb"),
                 "4: 0(0,4) 1(0,1) 4(1,3) 5(3,4)", "4: 0(0,4) 2(0,2) 3(2,3) 5(3,4)");
-        ranks(Check.loaded("A=aBc;B=C;C=D;D=E;E=bb:0;", "abbc"),
+        Check.ranks(Check.loaded("A=aBc;B=C;C=D;D=E;E=bb:0;", "abbc"),
                 "4: 0(0,4) 1(1,3) 2(1,3) 3(1,3) 4(1,3)");
     }
 
@@ -156,15 +145,15 @@ public final class RankTest {
 
     private static void answersFollowTheState() {
         RankedTrees x = Check.loaded("A=AA;A=a;A=b:5;", "a");
-        ranks(x, "1: 1(0,1)");
+        Check.ranks(x, "1: 1(0,1)");
         x.token('b');
-        ranks(x, "7: 0(0,2) 1(0,1) 2(1,2)");
+        Check.ranks(x, "7: 0(0,2) 1(0,1) 2(1,2)");
         Check.row(x, "ba");
-        ranks(x, "7: 0(0,2) 2(0,1) 1(1,2)");
+        Check.ranks(x, "7: 0(0,2) 2(0,1) 1(1,2)");
         Check.same("load", Check.load(x, "A=b:3;B=BB:2;A=Aa:4;"), 0);
-        ranks(x, "7: 2(0,2) 0(0,1)");
+        Check.ranks(x, "7: 2(0,2) 0(0,1)");
         Check.same("load", Check.load(x, "C=Ca;"), 0);
-        ranks(x);
+        Check.ranks(x);
     }
 
     // "there is no grammar", whatever else is wrong, until a load answers 0
@@ -184,7 +173,7 @@ public final class RankTest {
             }
         }
         Check.same("load", Check.load(x, "A=ab:6;"), 0);
-        ranks(x, "6: 0(0,2)");
+        Check.ranks(x, "6: 0(0,2)");
     }
 
     // "k is not 0 .. 7", "the row has no k-th tree"

@@ -1,3 +1,4 @@
+import com.sun.management.ThreadMXBean;
 import java.lang.management.ManagementFactory;
 
 /** "What it is" and "Not promised": an object is good for 512 calls, the dearest ones too. */
@@ -129,7 +130,8 @@ public final class ReachTest {
     }
 
     private static void roomForOneRun() {
-        if (!(ManagementFactory.getThreadMXBean() instanceof com.sun.management.ThreadMXBean bean)) {
+        // Only some machines count what a thread makes; elsewhere there is nothing to compare.
+        if (!(ManagementFactory.getThreadMXBean() instanceof ThreadMXBean bean)) {
             return;
         }
         long thread = Thread.currentThread().getId();

@@ -13,19 +13,16 @@ public final class RefusedTest {
     }
 
     private static final String GRAMMAR = "A=AB:2;A=a:3;B=b;B=C:0;C=b;D=d;A=BBB:004;";
-    private static final String FOURTEEN =
-            "A=a;A=b;A=c;A=d;A=e;A=f;A=g;A=h;A=i;A=j;A=k;A=l;A=m;A=n;";
-
     private static final State NEW = new State("new", x -> { }, "A=a;");
     private static final State UNLOADED = new State("unloaded", x -> {
         Check.write(x, "B=aCb:7;B=ab;C=a");
         Check.row(x, "ab");
     }, ";");
     private static final State FULL = new State("full", x -> {
-        Check.load(x, "B=BD:2;B=e;D=b;" + FOURTEEN.substring(12));
+        Check.load(x, "B=BD:2;B=e;D=b;" + Check.FOURTEEN.substring(12));
         Check.row(x, "ebbbbb");
         x.wipe();
-        Check.write(x, FOURTEEN + "*".repeat(240 - FOURTEEN.length()));
+        Check.write(x, Check.FOURTEEN + "*".repeat(240 - Check.FOURTEEN.length()));
     }, "");
 
     public static void main(String[] args) {
@@ -89,8 +86,8 @@ public final class RefusedTest {
     }
 
     private static void inEveryState(State state) {
-        String[] bad = {"\u001f", "\u007f", ";\u001f", "\u007f;", "C=c;D=d\u0001", "\u0080;C=c;\0\0",
-            ";\0\0\u00ff", "\n"};
+        String[] bad = {"\u001f", "\u007f", ";\u001f", "\u007f;", "C=c;D=d\u0001",
+            "\u0080;C=c;\0\0", ";\0\0\u00ff", "\n"};
         for (String characters : bad) {
             notWritten(state, characters);
         }
@@ -168,7 +165,7 @@ public final class RefusedTest {
     // "Otherwise nothing changes"
     private static void loadsThatFail() {
         String[] texts = {"", "B=b", "B=b;C", "B=b;C=c;B=b", "B=b;C=c;B=b:9;C", "x=y",
-            FOURTEEN + "B=b;C=c", "B=b;b", "D=bbb:77;D=abb:5;D=;D=a"};
+            Check.FOURTEEN + "B=b;C=c", "B=b;b", "D=bbb:77;D=abb:5;D=;D=a"};
         String[] want = {"-1", "-1", "-2", "-3", "-3", "-1", "-15", "-2", "-3"};
         for (int k = 0; k < texts.length; k++) {
             harmless(ranked(texts[k]), want[k], "load of " + texts[k], RankedTrees::load);

@@ -105,38 +105,28 @@ public final class RuleTest {
         }
     }
 
-    /** The digits say which rules are useful. */
-    private static void marks(String text, String want) {
-        RankedTrees x = Check.loaded(text, "");
-        StringBuilder got = new StringBuilder();
-        for (int k = 0; k < x.rules(); k++) {
-            got.append(x.rule(k, 5));
-        }
-        Check.text("useful of " + text, got.toString(), want);
-    }
-
     private static void useful() {
-        marks("A=a;", "1");
-        marks("A=A;", "0");
-        marks("A=AA;", "0");
-        marks("A=B;B=b;", "11");
-        marks("B=b;A=B;A=a;", "100");
-        marks("A=BC;B=b;A=a;", "001");
-        marks("A=BC;B=b;C=c;A=a;", "1111");
-        marks("A=BCD;B=b;C=c;D=D;A=x;", "00001");
-        marks("A=E;E=D;D=C;C=B;B=b;", "11111");
-        marks("A=B;B=C;C=D;D=E;E=e;", "11111");
-        marks("E=e;D=E;C=D;B=C;A=B;", "10000");
-        marks("A=B;E=e;D=E;C=D;B=C;", "11111");
-        marks("A=Ax;E=e;D=E;C=D;B=C;A=B;", "111111");
-        marks("A=aB;B=bC;B=b;C=Cc;D=d;D=A;", "101000");
-        marks("A=a;A=aB;B=bA;B=Cc;C=Cd;", "11100");
+        Check.useful("A=a;", "1");
+        Check.useful("A=A;", "0");
+        Check.useful("A=AA;", "0");
+        Check.useful("A=B;B=b;", "11");
+        Check.useful("B=b;A=B;A=a;", "100");
+        Check.useful("A=BC;B=b;A=a;", "001");
+        Check.useful("A=BC;B=b;C=c;A=a;", "1111");
+        Check.useful("A=BCD;B=b;C=c;D=D;A=x;", "00001");
+        Check.useful("A=E;E=D;D=C;C=B;B=b;", "11111");
+        Check.useful("A=B;B=C;C=D;D=E;E=e;", "11111");
+        Check.useful("E=e;D=E;C=D;B=C;A=B;", "10000");
+        Check.useful("A=B;E=e;D=E;C=D;B=C;", "11111");
+        Check.useful("A=Ax;E=e;D=E;C=D;B=C;A=B;", "111111");
+        Check.useful("A=aB;B=bC;B=b;C=Cc;D=d;D=A;", "101000");
+        Check.useful("A=a;A=aB;B=bA;B=Cc;C=Cd;", "11100");
         longerThanAnyRow();
     }
 
     // The shortest tree here has 27 tokens: no row is so long, yet the rules are useful.
     private static void longerThanAnyRow() {
-        marks("A=BBB;B=CCC;C=ccc;", "111");
-        marks("A=a;A=BBB;B=CCC;C=ccc;D=AB;", "11110");
+        Check.useful("A=BBB;B=CCC;C=ccc;", "111");
+        Check.useful("A=a;A=BBB;B=CCC;C=ccc;D=AB;", "11110");
     }
 }

@@ -2,9 +2,6 @@ import java.util.function.IntUnaryOperator;
 
 /** The section "Terms" up to the useful rules: where a rule, a body, a weight and a text end. */
 public final class TermsTest {
-    private static final String FOURTEEN =
-            "A=a;A=b;A=c;A=d;A=e;A=f;A=g;A=h;A=i;A=j;A=k;A=l;A=m;A=n;";
-
     public static void main(String[] args) {
         atMost14Rules();
         heads();
@@ -48,14 +45,14 @@ public final class TermsTest {
     // "a row of at most 14 RULES, numbered 0, 1, .."
     private static void atMost14Rules() {
         for (int rules = 1; rules <= 14; rules++) {
-            RankedTrees x = Check.loaded(FOURTEEN.substring(0, 4 * rules), "");
+            RankedTrees x = Check.loaded(Check.FOURTEEN.substring(0, 4 * rules), "");
             Check.same("rules", x.rules(), rules);
             Check.same("the last one's symbol", x.rule(rules - 1, 1), 'a' + rules - 1);
             int behind = rules;
             Check.refused("rule(" + rules + ", 0)", Check.INDEX, () -> x.rule(behind, 0));
         }
-        Check.loads(FOURTEEN + "A=o;", -15);
-        Check.loads(FOURTEEN + "A=o;A=p;", -15);
+        Check.loads(Check.FOURTEEN + "A=o;", -15);
+        Check.loads(Check.FOURTEEN + "A=o;A=p;", -15);
     }
 
     // "a HEAD, one of the letters A .. E"
@@ -165,8 +162,8 @@ public final class TermsTest {
     private static void noTwoTheSame() {
         for (int k = 1; k < 14; k++) {
             for (int before = 0; before < k; before++) {
-                String twin = FOURTEEN.substring(4 * before, 4 * before + 4);
-                Check.loads(FOURTEEN.substring(0, 4 * k) + twin, -(k + 1));
+                String twin = Check.FOURTEEN.substring(4 * before, 4 * before + 4);
+                Check.loads(Check.FOURTEEN.substring(0, 4 * k) + twin, -(k + 1));
             }
         }
         String[] bodies = {"a", "B", "ab", "aB", "BC", "abc", "BCD"};
@@ -200,44 +197,34 @@ public final class TermsTest {
         Check.same("load of 240 characters", x.load(), -15);
     }
 
-    /** The digits say which rules are useful. */
-    private static void marks(String text, String want) {
-        RankedTrees x = Check.loaded(text, "");
-        StringBuilder got = new StringBuilder();
-        for (int k = 0; k < want.length(); k++) {
-            got.append(x.rule(k, 5));
-        }
-        Check.text("useful of " + text, got.toString(), want);
-    }
-
     // "one of the rules of some tree for the START, be its span as long as it may"
     private static void usefulBeyondAnyRow() {
         RankedTrees six = Check.loaded("A=BBB;B=bb;", "bbbbbb");
         Check.same("trees of six", six.trees(), 1);
-        marks("A=BBB;B=bb;", "11");
-        marks("A=BBC;B=bb;C=bbb;", "111");
-        marks("A=a;A=BBC;B=bb;C=bbb;", "1111");
-        marks("A=BBB;B=CCC;C=ccc;", "111");
-        marks("A=BBB;B=CCC;C=DDD;D=EEE;E=eee;", "11111");
-        marks("E=DDD;D=CCC;C=BBB;B=AAA;A=aaa;", "11111");
-        marks("E=DDD;D=CCC;C=BBB;B=AAA;A=aAa;", "00000");
+        Check.useful("A=BBB;B=bb;", "11");
+        Check.useful("A=BBC;B=bb;C=bbb;", "111");
+        Check.useful("A=a;A=BBC;B=bb;C=bbb;", "1111");
+        Check.useful("A=BBB;B=CCC;C=ccc;", "111");
+        Check.useful("A=BBB;B=CCC;C=DDD;D=EEE;E=eee;", "11111");
+        Check.useful("E=DDD;D=CCC;C=BBB;B=AAA;A=aaa;", "11111");
+        Check.useful("E=DDD;D=CCC;C=BBB;B=AAA;A=aAa;", "00000");
     }
 
     private static void usefulOnBothSides() {
-        marks("A=a;", "1");
-        marks("A=A;", "0");
-        marks("A=aA;", "0");
-        marks("A=aA;A=a;", "11");
-        marks("A=B;", "0");
-        marks("A=B;B=b;", "11");
-        marks("A=a;B=b;", "10");
-        marks("A=a;B=A;", "10");
-        marks("A=a;A=BC;B=b;", "100");
-        marks("A=a;A=BC;B=b;C=c;", "1111");
-        marks("A=a;A=BCD;B=b;C=c;", "1000");
-        marks("A=a;A=BCD;B=b;C=c;D=d;", "11111");
-        marks("A=a;A=bB;B=bB;", "100");
-        marks("A=a;A=bB;B=bB;B=bA;", "1111");
+        Check.useful("A=a;", "1");
+        Check.useful("A=A;", "0");
+        Check.useful("A=aA;", "0");
+        Check.useful("A=aA;A=a;", "11");
+        Check.useful("A=B;", "0");
+        Check.useful("A=B;B=b;", "11");
+        Check.useful("A=a;B=b;", "10");
+        Check.useful("A=a;B=A;", "10");
+        Check.useful("A=a;A=BC;B=b;", "100");
+        Check.useful("A=a;A=BC;B=b;C=c;", "1111");
+        Check.useful("A=a;A=BCD;B=b;C=c;", "1000");
+        Check.useful("A=a;A=BCD;B=b;C=c;D=d;", "11111");
+        Check.useful("A=a;A=bB;B=bB;", "100");
+        Check.useful("A=a;A=bB;B=bB;B=bA;", "1111");
     }
 
     /** X=Y;Y=Z; .. =X; over the first letters behind the one told. */

@@ -14,6 +14,7 @@ public final class TextTest {
         aRefusedWriteBeyond240AddsNone();
         wipeEmpties();
         wipeOfAFullText();
+        whatIsGoneIsNotRead();
         writeChangesTheTextAlone();
         Check.end();
     }
@@ -176,6 +177,23 @@ public final class TextTest {
         Check.same("room", Portrait.roomOfText(x), 240);
         x.wipe();
         Check.same("room once more", Portrait.roomOfText(x), 240);
+    }
+
+    // A longer text before, or a write that was refused, must not make up for what is missing.
+    private static void whatIsGoneIsNotRead() {
+        String whole = "A=abc:123;";
+        for (int end = 0; end < whole.length(); end++) {
+            RankedTrees wiped = new RankedTrees();
+            Check.write(wiped, whole);
+            wiped.wipe();
+            Check.write(wiped, whole.substring(0, end));
+            Check.same("load of " + whole.substring(0, end), wiped.load(), -1);
+            RankedTrees refused = new RankedTrees();
+            Check.write(refused, whole.substring(0, end));
+            String rest = whole.substring(end, Math.min(end + 7, whole.length()));
+            Check.fails("write", refused.write(Check.packed(rest + '\u001f')));
+            Check.same("load of " + whole.substring(0, end), refused.load(), -1);
+        }
     }
 
     private static void writeChangesTheTextAlone() {

@@ -17,14 +17,6 @@ public final class TreeTermsTest {
         Check.end();
     }
 
-    private static void ranks(RankedTrees x, String... want) {
-        Check.same("trees", x.trees(), want.length);
-        for (int k = 0; k < want.length; k++) {
-            Check.text("tree " + k, x.weight(k) + ": " + Check.tree(x, k), want[k]);
-        }
-        Check.refused("one more", Check.ELEMENT, () -> x.weight(want.length));
-    }
-
     // "a list of at most 6 tokens"
     private static void atMost6Tokens() {
         RankedTrees x = Check.loaded("A=aA;A=b;", "");
@@ -41,7 +33,7 @@ public final class TreeTermsTest {
     // "places in it are counted from 0"
     private static void placesFrom0() {
         RankedTrees x = Check.loaded("A=BAC;A=D;B=a;B=b;C=e;C=f;D=cd;", "abcdef");
-        ranks(x, "8: 0(0,6) 2(0,1) 0(1,5) 3(1,2) 1(2,4) 6(2,4) 4(4,5) 5(5,6)");
+        Check.ranks(x, "8: 0(0,6) 2(0,1) 0(1,5) 3(1,2) 1(2,4) 6(2,4) 4(4,5) 5(5,6)");
         for (int from = 0; from < 6; from++) {
             for (char letter = 'B'; letter <= 'C'; letter++) {
                 boolean there = letter == 'B' ? from <= 1 : from >= 4;
@@ -129,54 +121,55 @@ public final class TreeTermsTest {
 
     // "its own, then those of its first tree, of its second one and of its third one"
     private static void theRules() {
-        ranks(Check.loaded("A=BCD;D=d;C=c;B=b;", "bcd"), "4: 0(0,3) 3(0,1) 2(1,2) 1(2,3)");
-        ranks(Check.loaded("A=BCB;B=bD;C=Dc;D=d;", "bddcbd"),
+        Check.ranks(Check.loaded("A=BCD;D=d;C=c;B=b;", "bcd"), "4: 0(0,3) 3(0,1) 2(1,2) 1(2,3)");
+        Check.ranks(Check.loaded("A=BCB;B=bD;C=Dc;D=d;", "bddcbd"),
                 "7: 0(0,6) 1(0,2) 3(1,2) 2(2,4) 3(2,3) 1(4,6) 3(5,6)");
-        ranks(Check.loaded("A=xBy;B=C;C=cC;C=c;", "xcccy"),
+        Check.ranks(Check.loaded("A=xBy;B=C;C=cC;C=c;", "xcccy"),
                 "5: 0(0,5) 1(1,4) 2(1,4) 2(2,4) 3(3,4)");
     }
 
     // "the one with less weight comes first"
     private static void lessWeightFirst() {
-        ranks(Check.loaded("A=B:4;A=C:3;B=x:0;C=x:0;", "x"),
+        Check.ranks(Check.loaded("A=B:4;A=C:3;B=x:0;C=x:0;", "x"),
                 "3: 1(0,1) 3(0,1)", "4: 0(0,1) 2(0,1)");
-        ranks(Check.loaded("A=B:3;A=C:3;B=x:1;C=x:0;", "x"),
+        Check.ranks(Check.loaded("A=B:3;A=C:3;B=x:1;C=x:0;", "x"),
                 "3: 1(0,1) 3(0,1)", "4: 0(0,1) 2(0,1)");
-        ranks(Check.loaded("A=B:999;A=x:998;B=x:0;", "x"), "998: 1(0,1)", "999: 0(0,1) 2(0,1)");
-        ranks(Check.loaded("A=xx:2;A=BB:0;B=x:0;", "xx"),
+        Check.ranks(Check.loaded("A=B:999;A=x:998;B=x:0;", "x"),
+                "998: 1(0,1)", "999: 0(0,1) 2(0,1)");
+        Check.ranks(Check.loaded("A=xx:2;A=BB:0;B=x:0;", "xx"),
                 "0: 1(0,2) 2(0,1) 2(1,2)", "2: 0(0,2)");
-        ranks(Check.loaded("A=xx:10;A=BB:2;B=x:7;", "xx"),
+        Check.ranks(Check.loaded("A=xx:10;A=BB:2;B=x:7;", "xx"),
                 "10: 0(0,2)", "16: 1(0,2) 2(0,1) 2(1,2)");
     }
 
     // "where that is the same, the one with the lesser rule"
     private static void theLesserRuleFirst() {
-        ranks(Check.loaded("A=B:3;A=C:3;B=x:0;C=x:0;", "x"),
+        Check.ranks(Check.loaded("A=B:3;A=C:3;B=x:0;C=x:0;", "x"),
                 "3: 0(0,1) 2(0,1)", "3: 1(0,1) 3(0,1)");
-        ranks(Check.loaded("A=C:3;A=B:3;B=x:0;C=x:0;", "x"),
+        Check.ranks(Check.loaded("A=C:3;A=B:3;B=x:0;C=x:0;", "x"),
                 "3: 0(0,1) 3(0,1)", "3: 1(0,1) 2(0,1)");
         // Rule 2 is less than rule 10, though its digits are not.
-        ranks(Check.loaded("A=a;A=b;A=x:5;A=c;A=d;A=e;A=f;A=g;A=h;A=i;A=B:5;B=x:0;", "x"),
+        Check.ranks(Check.loaded("A=a;A=b;A=x:5;A=c;A=d;A=e;A=f;A=g;A=h;A=i;A=B:5;B=x:0;", "x"),
                 "5: 2(0,1)", "5: 10(0,1) 11(0,1)");
         // Fewer rules do not count.
-        ranks(Check.loaded("A=B:1;A=x:3;B=C:1;C=x:1;", "x"),
+        Check.ranks(Check.loaded("A=B:1;A=x:3;B=C:1;C=x:1;", "x"),
                 "3: 0(0,1) 2(0,1) 3(0,1)", "3: 1(0,1)");
     }
 
     // "at the first place where their rules differ"
     private static void atTheFirstDifference() {
-        ranks(Check.loaded("A=BBB:0;B=x:1;B=xx:1;", "xxxx"),
+        Check.ranks(Check.loaded("A=BBB:0;B=x:1;B=xx:1;", "xxxx"),
                 "3: 0(0,4) 1(0,1) 1(1,2) 2(2,4)",
                 "3: 0(0,4) 1(0,1) 2(1,3) 1(3,4)",
                 "3: 0(0,4) 2(0,2) 1(2,3) 1(3,4)");
         // The first trees' order is turned round in the second ones: only the first ones count.
-        ranks(Check.loaded("A=BC;C=xx;C=x;B=x;B=xx;", "xxx"),
+        Check.ranks(Check.loaded("A=BC;C=xx;C=x;B=x;B=xx;", "xxx"),
                 "3: 0(0,3) 3(0,1) 1(1,3)", "3: 0(0,3) 4(0,2) 2(2,3)");
         // Deep in the first tree they differ, and the second one says the opposite.
-        ranks(Check.loaded("A=BC;B=yD;D=x;D=xx;C=xx;C=x;", "yxxx"),
+        Check.ranks(Check.loaded("A=BC;B=yD;D=x;D=xx;C=xx;C=x;", "yxxx"),
                 "4: 0(0,4) 1(0,2) 2(1,2) 4(2,4)", "4: 0(0,4) 1(0,3) 3(1,3) 5(3,4)");
         // At the last place alone.
-        ranks(Check.loaded("A=xyB;B=z:4;B=C:2;C=z:2;", "xyz"),
+        Check.ranks(Check.loaded("A=xyB;B=z:4;B=C:2;C=z:2;", "xyz"),
                 "5: 0(0,3) 1(2,3)", "5: 0(0,3) 2(2,3) 3(2,3)");
     }
 
@@ -186,7 +179,7 @@ public final class TreeTermsTest {
         counts("B=x;A=y;A=xx;", rows, 1, 0, 0, 0, 0, 0);
         counts("A=y;B=x;A=xx;", rows, 0, 1, 0, 1, 0, 0);
         RankedTrees x = Check.loaded("B=xC;C=xx;", "xxx");
-        ranks(x, "2: 0(0,3) 1(1,3)");
+        Check.ranks(x, "2: 0(0,3) 1(1,3)");
         Check.same("ways of the whole", x.ways('B', 0, 3), 1);
         Check.same("ways of the tree in it", x.ways('C', 1, 3), 1);
     }
@@ -194,11 +187,11 @@ public final class TreeTermsTest {
     // "none when the row is empty"
     private static void noneWhenTheRowIsEmpty() {
         RankedTrees x = Check.loaded("A=a;A=AA;", "");
-        ranks(x);
+        Check.ranks(x);
         Check.same("token", x.token('a'), 1);
-        ranks(x, "1: 0(0,1)");
+        Check.ranks(x, "1: 0(0,1)");
         Check.same("drop", x.drop(), 1);
-        ranks(x);
+        Check.ranks(x);
         Check.refused("ways", Check.INDEX, () -> x.ways('A', 0, 1));
         Check.refused("the tree that was there", Check.ELEMENT, () -> x.size(0));
         Check.refused("its rules", Check.ELEMENT, () -> x.at(0, 0, 0));
