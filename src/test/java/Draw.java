@@ -59,6 +59,43 @@ final class Draw {
         return text.toString();
     }
 
+    /** Rules by which most rows have trees by the thousand, and many of the same weight. */
+    String denseText() {
+        int letters = 3 + below(3);
+        int heaviest = 1 + below(4);
+        Set<String> rules = new LinkedHashSet<>();
+        for (int letter = 0; letter < letters; letter++) {
+            for (int other = letter + 1; other < letters; other++) {
+                if (!oneIn(5)) {
+                    rules.add((char) ('A' + letter) + "=" + (char) ('A' + other));
+                }
+            }
+        }
+        String last = (char) ('A' + letters - 1) + "=";
+        rules.add(last + "a");
+        rules.add(last + "b");
+        rules.add(last + "AA");
+        while (rules.size() < 14) {
+            String head = (char) ('A' + below(letters)) + "=";
+            rules.add(head + symbol(letters) + symbol(letters) + (oneIn(2) ? symbol(letters) : ""));
+        }
+        StringBuilder text = new StringBuilder();
+        for (String rule : rules) {
+            text.append(rule).append(':').append(below(heaviest)).append(';');
+        }
+        return text.toString();
+    }
+
+    /** The text with one character more, one less, or another one in its place. */
+    String changed(String text) {
+        String characters = "AEFaz:;;==019 ";
+        String one = String.valueOf(characters.charAt(below(characters.length())));
+        int place = below(text.length());
+        int kind = below(3);
+        String behind = text.substring(kind == 0 ? place : place + 1);
+        return text.substring(0, place) + (kind == 1 ? "" : one) + behind;
+    }
+
     // Only later letters stand alone, so that none comes to itself.
     private String alone(int head, int letters) {
         boolean last = head == letters - 1;

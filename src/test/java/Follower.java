@@ -3,8 +3,9 @@ import java.util.NoSuchElementException;
 
 /** An object as the document tells it, in the plainest form, over a Model of its grammar. */
 final class Follower {
-    // Where a row has more trees, they are counted but not listed.
+    // Where a row has more trees, only the first of them are listed, more than are told.
     private static final long MOST_LISTED = 2000;
+    private static final int FIRST = 20;
 
     String text = "";
     String row = "";
@@ -113,11 +114,6 @@ final class Follower {
         return rules.get(i)[what];
     }
 
-    /** False when this row has too many trees for their list. */
-    boolean listed() {
-        return grammar == null || trees() <= MOST_LISTED;
-    }
-
     long treesOf(String tokens) {
         return grammar == null ? 0
                 : grammar.count(tokens, grammar.heads.get(0).charAt(0), 0, tokens.length());
@@ -135,7 +131,8 @@ final class Follower {
             throw new IllegalArgumentException();
         }
         if (ranked == null) {
-            ranked = grammar.ranked(row);
+            boolean many = trees() > MOST_LISTED;
+            ranked = many ? grammar.firstTrees(row, FIRST) : grammar.ranked(row);
         }
         if (k >= ranked.size()) {
             throw new NoSuchElementException();

@@ -1,7 +1,9 @@
 import java.util.ArrayList;
 import java.util.Arrays;
+import java.util.HashMap;
 import java.util.HashSet;
 import java.util.List;
+import java.util.Map;
 import java.util.Set;
 import java.util.regex.Matcher;
 import java.util.regex.Pattern;
@@ -22,6 +24,10 @@ final class Model {
     final List<Integer> weights = new ArrayList<>();
     Set<Integer> useful = new HashSet<>();
     int fault;
+    // By letter and tokens.
+    private final Map<String, Long> counts = new HashMap<>();
+    // Those of the row that is asked for, by letter, from and to.
+    private final Map<String, List<Tree>> known = new HashMap<>();
 
     Model(String text) {
         fault = read(text);
@@ -103,6 +109,14 @@ final class Model {
 
     /** How many trees of useful rules there are. */
     long count(String row, char letter, int from, int to) {
+        String key = letter + " " + row.substring(from, to);
+        if (!counts.containsKey(key)) {
+            counts.put(key, countAnew(row, letter, from, to));
+        }
+        return counts.get(key);
+    }
+
+    private long countAnew(String row, char letter, int from, int to) {
         long sum = 0;
         for (int k : useful) {
             if (heads.get(k).charAt(0) == letter) {
@@ -131,12 +145,17 @@ final class Model {
 
     /** All trees of the row, the first one in front. */
     List<Tree> ranked(String row) {
-        List<Tree> all = new ArrayList<>();
-        if (!row.isEmpty()) {
-            all.addAll(list(row, heads.get(0).charAt(0), 0, row.length()));
-        }
-        all.sort(Model::order);
-        return all;
+        return firstTrees(row, Integer.MAX_VALUE);
+    }
+
+    /**
+     * The first trees of a row that may have too many to list them all: of each part's trees, too,
+     * no more than these are looked at, since one with a later part is behind as many others.
+     */
+    List<Tree> firstTrees(String row, int most) {
+        known.clear();
+        return row.isEmpty() ? List.of()
+                : list(row, heads.get(0).charAt(0), new int[] {0, row.length()}, most);
     }
 
     private static int order(Tree one, Tree other) {
@@ -150,18 +169,25 @@ final class Model {
         return tree.rules().stream().mapToInt(rule -> rule[0]).toArray();
     }
 
-    private List<Tree> list(String row, char letter, int from, int to) {
-        List<Tree> found = new ArrayList<>();
-        for (int k : useful) {
-            if (heads.get(k).charAt(0) == letter) {
-                Tree own = new Tree(weights.get(k), List.of(new int[] {k, from, to}));
-                addParts(found, own, row, bodies.get(k), new int[] {from, to});
+    private List<Tree> list(String row, char letter, int[] span, int most) {
+        String key = letter + " " + span[0] + " " + span[1];
+        if (!known.containsKey(key)) {
+            List<Tree> found = new ArrayList<>();
+            for (int k : useful) {
+                if (heads.get(k).charAt(0) == letter) {
+                    int[] own = {k, span[0], span[1]};
+                    Tree tree = new Tree(weights.get(k), List.of(own));
+                    addParts(found, tree, row, bodies.get(k), span, most);
+                }
             }
+            found.sort(Model::order);
+            known.put(key, found.subList(0, Math.min(found.size(), most)));
         }
-        return found;
+        return known.get(key);
     }
 
-    private void addParts(List<Tree> found, Tree before, String row, String body, int[] span) {
+    private void addParts(List<Tree> found, Tree before, String row, String body, int[] span,
+            int most) {
         int from = span[0];
         int to = span[1];
         if (body.isEmpty() || to - from < body.length()) {
@@ -173,16 +199,16 @@ final class Model {
         String rest = body.substring(1);
         if (Character.isLowerCase(body.charAt(0))) {
             if (row.charAt(from) == body.charAt(0)) {
-                addParts(found, before, row, rest, new int[] {from + 1, to});
+                addParts(found, before, row, rest, new int[] {from + 1, to}, most);
             }
             return;
         }
         for (int cut = rest.isEmpty() ? to : from + 1; cut <= to - rest.length(); cut++) {
-            for (Tree part : list(row, body.charAt(0), from, cut)) {
+            for (Tree part : list(row, body.charAt(0), new int[] {from, cut}, most)) {
                 List<int[]> rules = new ArrayList<>(before.rules());
                 rules.addAll(part.rules());
                 Tree more = new Tree(before.weight() + part.weight(), rules);
-                addParts(found, more, row, rest, new int[] {cut, to});
+                addParts(found, more, row, rest, new int[] {cut, to}, most);
             }
         }
     }

@@ -120,8 +120,6 @@ public final class RunTest {
             both("trees()", x::trees, follower::trees);
         } else if (kind == 3) {
             askWays();
-        } else if (!follower.listed()) {
-            newRow();
         } else if (kind == 4) {
             both("weight(" + k + ")", () -> x.weight(k), () -> follower.weight(k));
         } else if (kind == 5) {
